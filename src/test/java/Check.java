@@ -16,6 +16,10 @@ final class Check {
         due(what, fact ? 1 : 0, 1);
     }
 
+    int looked() {
+        return right + wrong;
+    }
+
     void end(String name) {
         System.out.println(name + ": " + right + " right, " + wrong + " wrong");
         if (wrong != 0 || right == 0) {
