@@ -7,10 +7,14 @@ import java.lang.reflect.Modifier;
 import java.nio.file.Files;
 import java.nio.file.Path;
 import java.util.ArrayDeque;
+import java.util.ArrayList;
+import java.util.Arrays;
 import java.util.Collections;
 import java.util.IdentityHashMap;
+import java.util.List;
 import java.util.Set;
 import java.util.TreeSet;
+import java.util.regex.Matcher;
 import java.util.regex.Pattern;
 
 /** The face, what of LANGUAGE.md can be seen from outside, and the room that an object takes. */
@@ -24,6 +28,8 @@ public final class RulesTest {
         "Exact", "@", "equals", "hashCode", "toString", "protected", "static \\{"};
     // Of a room of 7.3 million, were each of 512 calls to make an object.
     private static final int MOST_ELEMENTS = 7300000 / 512;
+    private static final Set<String> LIBRARY = Set.of("Integer.bitCount", "Math.min", "System.arraycopy");
+    private static final Pattern METHOD = Pattern.compile("( {4}| {8})(?!for|if|while|switch)\\w.*\\) \\{");
     private static final Check CHECK = new Check();
 
     private static void face() {
@@ -78,6 +84,51 @@ public final class RulesTest {
         CHECK.holds("no sign beyond 127", text.chars().allMatch(c -> c < 128));
     }
 
+    private static void counts() {
+        List<Class<?>> classes = new ArrayList<>(Arrays.asList(GraveRows.class.getDeclaredClasses()));
+        classes.add(GraveRows.class);
+        CHECK.holds("at most twelve classes", classes.size() <= 12);
+        for (Class<?> each : classes) {
+            int held = 0;
+            for (Field field : each.getDeclaredFields()) {
+                int how = field.getModifiers();
+                CHECK.holds("static is final: " + field, !Modifier.isStatic(how) || Modifier.isFinal(how));
+                held += Modifier.isStatic(how) ? 0 : 1;
+            }
+            CHECK.holds("at most twenty fields in " + each, held <= 20);
+            for (Method method : each.getDeclaredMethods()) {
+                CHECK.holds("at most seven parameters: " + method, method.getParameterCount() <= 7);
+            }
+        }
+    }
+
+    private static void methodsAreShort() throws IOException {
+        List<String> lines = Files.readAllLines(Path.of(SOURCE));
+        int methods = 0;
+        for (int first = 0; first < lines.size(); first++) {
+            Matcher head = METHOD.matcher(lines.get(first));
+            if (head.matches()) {
+                methods++;
+                int last = first;
+                while (!lines.get(last).equals(head.group(1) + "}")) {
+                    last++;
+                }
+                CHECK.holds("at most sixty lines: " + lines.get(first), last - first < 60);
+            }
+        }
+        CHECK.holds("methods were found", methods > 24);
+    }
+
+    /** Only static functions are called by a name with a capital, and all of them are the library's. */
+    private static void library() throws IOException {
+        Set<String> used = new TreeSet<>();
+        Matcher call = Pattern.compile("\\b([A-Z]\\w*\\.\\w+)\\(").matcher(Files.readString(Path.of(SOURCE)));
+        while (call.find()) {
+            used.add(call.group(1));
+        }
+        CHECK.holds("the library: " + used, LIBRARY.containsAll(used));
+    }
+
     private static int room(Object of) throws IllegalAccessException {
         Set<Object> seen = Collections.newSetFromMap(new IdentityHashMap<>());
         ArrayDeque<Object> open = new ArrayDeque<>();
@@ -126,6 +177,9 @@ public final class RulesTest {
         face();
         fields();
         words();
+        counts();
+        methodsAreShort();
+        library();
         rooms();
         CHECK.end("RulesTest");
     }
